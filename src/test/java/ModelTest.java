@@ -73,7 +73,8 @@ public final class ModelTest {
         } else if (kind < 10 && s >= 0 && s < 4 && bench.states(s) > 0) {
             int from = any(bench.states(s));
             int to = any(bench.states(s));
-            same("setStep", () -> bench.setStep(s, letter, from, to, value), () -> model.setStep(s, letter, from, to, value));
+            same("setStep", () -> bench.setStep(s, letter, from, to, value),
+                    () -> model.setStep(s, letter, from, to, value));
             same("setEnd", () -> bench.setEnd(s, to, end, value), () -> model.setEnd(s, to, end, value));
         } else if (kind < 13) {
             int how = any(30) == 0 ? 3 : any(3);

@@ -1,0 +1,140 @@
+/** Promises 26 and 27: undo, digest. */
+public final class StateTest {
+    private static final Class<?> STATE = IllegalStateException.class;
+    private static final Check CHECK = new Check("StateTest");
+
+    public static void main(String[] args) {
+        undoOfEachCall();
+        fourStates();
+        slotsAlone();
+        digest();
+        CHECK.end();
+    }
+
+    private static void undone(String what, SeriesBench x, Check.Call call) {
+        long before = slots(x);
+        Check.answer(call);
+        CHECK.due("undo of " + what, 1, () -> x.undo());
+        CHECK.due("the slots after undo of " + what, before, () -> slots(x));
+    }
+
+    /** A number for all that the slots hold. */
+    private static long slots(SeriesBench x) {
+        long h = 7;
+        for (int slot = 0; slot < 4; slot++) {
+            h = automaton(x, slot, h);
+        }
+        return h;
+    }
+
+    private static long automaton(SeriesBench x, int slot, long start) {
+        int n = x.states(slot);
+        long h = 31 * start + n;
+        for (int i = 0; i < n; i++) {
+            h = 31 * h + x.end(slot, i, false);
+            h = 31 * h + x.end(slot, i, true);
+        }
+        for (int letter = 0; letter < 2; letter++) {
+            for (int i = 0; i < n; i++) {
+                for (int j = 0; j < n; j++) {
+                    h = 31 * h + x.step(slot, letter, i, j);
+                }
+            }
+        }
+        return h;
+    }
+
+    private static void undoOfEachCall() {
+        SeriesBench x = new SeriesBench();
+        x.random(1, 4, 3);
+        x.append('a');
+        undone("begin", x, () -> x.begin(1, 12));
+        undone("setEnd", x, () -> x.setEnd(1, 2, true, 999));
+        undone("setStep", x, () -> x.setStep(1, 1, 2, 3, 999));
+        undone("random", x, () -> x.random(1, 4, 4));
+        undone("combine", x, () -> x.combine(1, 1, 1, 2));
+        undone("derive", x, () -> x.derive(1, 1, 6));
+        undone("scale", x, () -> x.scale(1, 17));
+        undone("parse", x, () -> x.parse(1));
+        undone("a begin that changes nothing", x, () -> x.begin(2, 0));
+        undone("a setEnd that changes nothing", x, () -> x.setEnd(1, 0, true, x.end(1, 0, true)));
+        undone("a scale that changes nothing", x, () -> x.scale(3, 1));
+        undone("a copy onto itself", x, () -> x.derive(1, 1, 0));
+        CHECK.due("undo of the first call", 0, () -> x.undo());
+        CHECK.due("states then", 0, () -> x.states(1));
+        CHECK.due("undo without a saved state", STATE, () -> x.undo());
+    }
+
+    private static void fourStates() {
+        SeriesBench x = new SeriesBench();
+        for (int states = 1; states <= 12; states++) {
+            x.begin(states % 4, states);
+        }
+        int[] due = {8, 7, 6, 5};
+        for (int i = 0; i < 4; i++) {
+            int slot = (12 - i) % 4;
+            int remaining = 3 - i;
+            CHECK.due("undo", remaining, () -> x.undo());
+            CHECK.due("states of slot " + slot, due[i], () -> x.states(slot));
+        }
+        CHECK.due("undo of a fifth", STATE, () -> x.undo());
+        CHECK.due("states after it", 5, () -> x.states(1));
+        x.begin(1, 2);
+        x.setEnd(1, 1, true, 4);
+        CHECK.due("undo after new calls", 1, () -> x.undo());
+        CHECK.due("the number", 0, () -> x.end(1, 1, true));
+        CHECK.due("undo of the begin", 0, () -> x.undo());
+        CHECK.due("states", 5, () -> x.states(1));
+    }
+
+    private static void slotsAlone() {
+        SeriesBench x = new SeriesBench();
+        x.begin(0, 3);
+        x.append('a');
+        x.append('b');
+        CHECK.due("undo", 0, () -> x.undo());
+        CHECK.due("the text after undo", 2, () -> x.clearText());
+        x.begin(0, 3);
+        Check.answer(() -> x.begin(0, 13));
+        Check.answer(() -> x.setEnd(0, 3, true, 1));
+        Check.answer(() -> x.setEnd(0, 0, true, -1));
+        Check.answer(() -> x.setStep(0, 0, 0, 0, 10007));
+        Check.answer(() -> x.random(0, 1, -1));
+        Check.answer(() -> x.combine(0, 0, 0, 5));
+        Check.answer(() -> x.derive(0, 0, 9));
+        Check.answer(() -> x.scale(0, -1));
+        CHECK.due("undo after refused calls", 0, () -> x.undo());
+    }
+
+    private static long expected(SeriesBench x, int length, int saved) {
+        long h = 31L * 3019 + length;
+        for (int slot = 0; slot < 4; slot++) {
+            h = automaton(x, slot, h);
+            for (int kind = 0; kind < 3; kind++) {
+                h = 31 * h + x.dimension(slot, kind);
+            }
+        }
+        return 31 * h + saved;
+    }
+
+    private static void digest() {
+        SeriesBench x = new SeriesBench();
+        CHECK.due("digest of a new object", expected(x, 0, 0), () -> x.digest());
+        x.append('a');
+        x.append('*');
+        CHECK.due("digest with a text", expected(x, 2, 0), () -> x.digest());
+        x.parse(2);
+        CHECK.due("digest with a state saved", expected(x, 2, 1), () -> x.digest());
+        x.random(0, 12, 5);
+        x.random(1, 2, 6);
+        x.combine(3, 1, 1, 0);
+        CHECK.due("digest with four states saved", expected(x, 2, 4), () -> x.digest());
+        x.setStep(3, 1, 0, 3, 10006);
+        x.clearText();
+        CHECK.due("digest after a fifth call", expected(x, 0, 4), () -> x.digest());
+        long before = x.digest();
+        CHECK.due("digest twice", before, () -> x.digest());
+        x.undo();
+        CHECK.due("digest after undo", expected(x, 0, 3), () -> x.digest());
+    }
+}
