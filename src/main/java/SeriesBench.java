@@ -232,10 +232,10 @@ public final class SeriesBench {
                 scratch.becomeStar(source);
                 break;
             case KIND_QUOTIENT_A:
-                scratch.becomeQuotient(source, 0);
+                scratch.startAfter(source, 0);
                 break;
             case KIND_QUOTIENT_B:
-                scratch.becomeQuotient(source, 1);
+                scratch.startAfter(source, 1);
                 break;
             case KIND_REDUCED:
                 basis.reduce(scratch);
@@ -665,8 +665,8 @@ public final class SeriesBench {
             }
         }
 
-        void becomeQuotient(Automaton x, int letter) {
-            copyFrom(x);
+        // Asks for a copy of x, whose initial numbers are still needed while those here change.
+        void startAfter(Automaton x, int letter) {
             for (int j = 0; j < size; j++) {
                 initial[j] = x.initialThenStep(letter, j);
             }

@@ -8,6 +8,7 @@ public final class OperationsTest {
 
     public static void main(String[] args) {
         combineExactly();
+        combineLargeNumbers();
         combineByWeights();
         combineRefuses();
         deriveExactly();
@@ -82,6 +83,22 @@ public final class OperationsTest {
         CHECK.due("combine with one without states", 4, () -> x.combine(3, 3, 0, 2));
         CHECK.due("its final numbers", 5, () -> x.end(3, 0, true));
         CHECK.due("its initial numbers", 0, () -> x.end(3, 0, false));
+    }
+
+    private static void combineLargeNumbers() {
+        SeriesBench x = new SeriesBench();
+        int[][] large = {{10006}};
+        int[][] next = {{10005}};
+        make(x, 0, new int[] {10006}, new int[] {10005}, large, next);
+        make(x, 1, new int[] {10005}, new int[] {10006}, next, large);
+        x.combine(2, 0, 1, 1);
+        holds("Hadamard of large numbers", x, 2, new int[] {2}, new int[] {2}, new int[][] {{2}}, new int[][] {{2}});
+        // Both empty words weigh 2; a's matrix times the final column is 2, then b's 4.
+        x.combine(2, 0, 1, 2);
+        holds("Cauchy of large numbers", x, 2, new int[] {10006, 10003}, new int[] {10003, 10006},
+                new int[][] {{10006, 10003}, {0, 10005}}, new int[][] {{10005, 9999}, {0, 10006}});
+        x.derive(2, 0, 3);
+        holds("quotient of large numbers", x, 2, new int[] {1}, new int[] {10005}, large, next);
     }
 
     private static void combineByWeights() {

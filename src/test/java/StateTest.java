@@ -68,23 +68,25 @@ public final class StateTest {
     private static void fourStates() {
         SeriesBench x = new SeriesBench();
         for (int states = 1; states <= 12; states++) {
-            x.begin(states % 4, states);
+            x.begin(states % 3, states);
         }
-        int[] due = {8, 7, 6, 5};
+        int[] due = {9, 8, 7, 6};
         for (int i = 0; i < 4; i++) {
-            int slot = (12 - i) % 4;
+            int slot = (12 - i) % 3;
             int remaining = 3 - i;
             CHECK.due("undo", remaining, () -> x.undo());
             CHECK.due("states of slot " + slot, due[i], () -> x.states(slot));
         }
         CHECK.due("undo of a fifth", STATE, () -> x.undo());
-        CHECK.due("states after it", 5, () -> x.states(1));
+        CHECK.due("states after it", 7, () -> x.states(1));
+        CHECK.due("states of slot 2 after it", 8, () -> x.states(2));
+        CHECK.due("states of slot 0 after it", 6, () -> x.states(0));
         x.begin(1, 2);
         x.setEnd(1, 1, true, 4);
         CHECK.due("undo after new calls", 1, () -> x.undo());
         CHECK.due("the number", 0, () -> x.end(1, 1, true));
         CHECK.due("undo of the begin", 0, () -> x.undo());
-        CHECK.due("states", 5, () -> x.states(1));
+        CHECK.due("states", 7, () -> x.states(1));
     }
 
     private static void slotsAlone() {

@@ -114,6 +114,13 @@ public final class WeightsTest {
         }
         CHECK.due("support without the last word of 11 letters", 0, () -> x.support(2, 4094));
         CHECK.due("support with the last word of 11 letters", 1, () -> x.support(2, 4095));
+        x.begin(3, 1);
+        x.setEnd(3, 0, false, 1);
+        x.setEnd(3, 0, true, 1);
+        CHECK.due("support of the empty word", 1, () -> x.support(3, 1));
+        CHECK.due("support of the empty word among all", 1, () -> x.support(3, 4095));
+        x.setStep(3, 1, 0, 0, 1);
+        CHECK.due("support after another call of it", 2, () -> x.support(3, 3));
         CHECK.due("support without states", 0, () -> x.support(0, 4095));
         CHECK.due("support below -1", ARGUMENT, () -> x.support(1, -1));
         CHECK.due("support below 4096", ARGUMENT, () -> x.support(1, 4096));
