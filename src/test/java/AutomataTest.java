@@ -16,7 +16,7 @@ public final class AutomataTest {
     }
 
     private static void newObject() {
-        SeriesBench x = new SeriesBench();
+        Bench x = new Bench();
         for (int slot = 0; slot < 4; slot++) {
             int s = slot;
             CHECK.due("states of a new object", 0, () -> x.states(s));
@@ -32,7 +32,7 @@ public final class AutomataTest {
     }
 
     private static void begin() {
-        SeriesBench x = new SeriesBench();
+        Bench x = new Bench();
         CHECK.due("begin of slot -1", INDEX, () -> x.begin(-1, 1));
         CHECK.due("begin of slot 4", INDEX, () -> x.begin(4, 13));
         CHECK.due("begin with -1 states", ARGUMENT, () -> x.begin(0, -1));
@@ -57,7 +57,7 @@ public final class AutomataTest {
     }
 
     private static void setEnd() {
-        SeriesBench x = new SeriesBench();
+        Bench x = new Bench();
         CHECK.due("setEnd without states", INDEX, () -> x.setEnd(0, 0, true, 1));
         x.begin(1, 3);
         CHECK.due("setEnd of slot 4", INDEX, () -> x.setEnd(4, 0, true, 1));
@@ -78,7 +78,7 @@ public final class AutomataTest {
     }
 
     private static void setStep() {
-        SeriesBench x = new SeriesBench();
+        Bench x = new Bench();
         CHECK.due("setStep without states", INDEX, () -> x.setStep(0, 0, 0, 0, 1));
         x.begin(2, 3);
         CHECK.due("setStep of slot 4", INDEX, () -> x.setStep(4, 0, 0, 0, 1));
@@ -102,7 +102,7 @@ public final class AutomataTest {
     }
 
     private static void random() {
-        SeriesBench x = new SeriesBench();
+        Bench x = new Bench();
         CHECK.due("random of slot 4", INDEX, () -> x.random(4, 13, 0));
         CHECK.due("random of slot -1", INDEX, () -> x.random(-1, 0, 0));
         CHECK.due("random with 13 states", ARGUMENT, () -> x.random(0, 13, 0));
@@ -113,14 +113,17 @@ public final class AutomataTest {
         int[] seeds = {0, 1, 77, 999999};
         for (int seed : seeds) {
             for (int states = 0; states <= 12; states += 3) {
-                drawn(x, states, seed);
+                drawn(states, seed);
             }
         }
-        CHECK.due("undo of a random", 3, () -> x.undo());
+        x.random(1, 9, 77);
+        x.random(1, 12, 77);
+        CHECK.due("undo of a random", 2, () -> x.undo());
         CHECK.due("states after undo", 9, () -> x.states(1));
     }
 
-    private static void drawn(SeriesBench x, int states, int seed) {
+    private static void drawn(int states, int seed) {
+        Bench x = new Bench();
         long[] s = {seed};
         int[][] ends = new int[states][2];
         int weight = 0;
@@ -148,7 +151,7 @@ public final class AutomataTest {
     }
 
     private static void reading() {
-        SeriesBench x = new SeriesBench();
+        Bench x = new Bench();
         x.begin(0, 2);
         CHECK.due("states of slot -1", INDEX, () -> x.states(-1));
         CHECK.due("states of slot 4", INDEX, () -> x.states(4));

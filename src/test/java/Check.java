@@ -31,6 +31,10 @@ final class Check {
         }
     }
 
+    int calls() {
+        return calls;
+    }
+
     int wrong() {
         return wrong;
     }

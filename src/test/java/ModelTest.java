@@ -1,11 +1,10 @@
 /** Long runs of calls, the same on a SeriesBench and on a Model: all answers and exceptions must agree. */
 public final class ModelTest {
-    private static final int RUNS = 150;
-    private static final int CALLS = 512;
+    private static final int RUNS = 700;
 
     private final Check check = new Check("ModelTest");
     private long seed;
-    private SeriesBench bench;
+    private Bench bench;
     private Model model;
     private int run;
     private int most;
@@ -17,11 +16,11 @@ public final class ModelTest {
     private void all() {
         for (run = 1; run <= RUNS && check.wrong() == 0; run++) {
             seed = run * 7919L;
-            bench = new SeriesBench();
+            bench = new Bench();
             model = new Model();
             most = run % 3 == 0 ? 12 : run % 3 == 1 ? 4 : 7;
-            for (int call = 0; call < CALLS && check.wrong() == 0; call++) {
-                if (call % 16 == 15) {
+            for (int step = 0; bench.left() > 0 && check.wrong() == 0; step++) {
+                if (step % 8 == 7) {
                     same("digest()", () -> bench.digest(), () -> model.digest());
                 } else {
                     one(any(26));
@@ -54,8 +53,10 @@ public final class ModelTest {
     }
 
     private void same(String what, Check.Call got, Check.Call want) {
-        String due = Check.answer(want);
-        check.due("run " + run + ": " + what, due, got);
+        if (bench.left() > 0) {
+            String due = Check.answer(want);
+            check.due("run " + run + ": " + what, due, got);
+        }
     }
 
     private void one(int kind) {
@@ -70,9 +71,9 @@ public final class ModelTest {
         boolean end = any(2) == 0;
         if (kind < 8) {
             change(kind, s, n, value);
-        } else if (kind < 10 && s >= 0 && s < 4 && bench.states(s) > 0) {
-            int from = any(bench.states(s));
-            int to = any(bench.states(s));
+        } else if (kind < 10 && s >= 0 && s < 4 && model.states(s) > 0) {
+            int from = any(model.states(s));
+            int to = any(model.states(s));
             same("setStep", () -> bench.setStep(s, letter, from, to, value),
                     () -> model.setStep(s, letter, from, to, value));
             same("setEnd", () -> bench.setEnd(s, to, end, value), () -> model.setEnd(s, to, end, value));

@@ -20,7 +20,7 @@ public final class OperationsTest {
     }
 
     /** Sets an automaton from its initial and final numbers and its two matrices. */
-    private static void make(SeriesBench x, int slot, int[] initial, int[] last, int[][] a, int[][] b) {
+    private static void make(Bench x, int slot, int[] initial, int[] last, int[][] a, int[][] b) {
         int n = initial.length;
         x.begin(slot, n);
         for (int i = 0; i < n; i++) {
@@ -33,7 +33,7 @@ public final class OperationsTest {
         }
     }
 
-    private static void holds(String what, SeriesBench x, int slot, int[] initial, int[] last, int[][] a, int[][] b) {
+    private static void holds(String what, Bench x, int slot, int[] initial, int[] last, int[][] a, int[][] b) {
         int n = initial.length;
         CHECK.due(what + ": states", n, () -> x.states(slot));
         for (int i = 0; i < n; i++) {
@@ -48,15 +48,15 @@ public final class OperationsTest {
         }
     }
 
-    private static SeriesBench example() {
-        SeriesBench x = new SeriesBench();
+    private static Bench example() {
+        Bench x = new Bench();
         make(x, 0, new int[] {2, 3}, new int[] {5, 7}, new int[][] {{1, 2}, {3, 4}}, new int[][] {{0, 1}, {5, 0}});
         make(x, 1, new int[] {11}, new int[] {13}, new int[][] {{6}}, new int[][] {{10006}});
         return x;
     }
 
     private static void combineExactly() {
-        SeriesBench x = example();
+        Bench x = example();
         CHECK.due("combine sum", 3, () -> x.combine(2, 0, 1, 0));
         holds("sum", x, 2, new int[] {2, 3, 11}, new int[] {5, 7, 13},
                 new int[][] {{1, 2, 0}, {3, 4, 0}, {0, 0, 6}}, new int[][] {{0, 1, 0}, {5, 0, 0}, {0, 0, 10006}});
@@ -86,7 +86,7 @@ public final class OperationsTest {
     }
 
     private static void combineLargeNumbers() {
-        SeriesBench x = new SeriesBench();
+        Bench x = new Bench();
         int[][] large = {{10006}};
         int[][] next = {{10005}};
         make(x, 0, new int[] {10006}, new int[] {10005}, large, next);
@@ -103,12 +103,12 @@ public final class OperationsTest {
 
     private static void combineByWeights() {
         for (int seed = 1; seed <= 12; seed++) {
-            SeriesBench x = new SeriesBench();
+            Bench x = new Bench();
             x.random(0, 3, seed);
             x.random(1, 4, 1000 + seed);
             x.combine(2, 0, 1, 0);
             x.combine(3, 0, 1, 1);
-            for (int word = 0; word < 63; word++) {
+            for (int word = 0; word < 31; word++) {
                 int w = word;
                 long l = x.weight(0, w);
                 long r = x.weight(1, w);
@@ -116,7 +116,7 @@ public final class OperationsTest {
                 CHECK.due("weight in a Hadamard product", l * r % P, () -> x.weight(3, w));
             }
             x.combine(2, 0, 1, 2);
-            for (int word = 0; word < 63; word++) {
+            for (int word = 0; word < 31; word++) {
                 int w = word;
                 String letters = Model.letters(w);
                 long due = (long) x.weight(0, w) * x.weight(1, 0) % P;
@@ -131,7 +131,7 @@ public final class OperationsTest {
     }
 
     private static void combineRefuses() {
-        SeriesBench x = new SeriesBench();
+        Bench x = new Bench();
         x.random(0, 6, 1);
         x.random(1, 7, 2);
         x.random(2, 2, 3);
@@ -158,7 +158,7 @@ public final class OperationsTest {
     }
 
     private static void deriveExactly() {
-        SeriesBench x = example();
+        Bench x = example();
         CHECK.due("derive a copy", 2, () -> x.derive(2, 0, 0));
         holds("copy", x, 2, new int[] {2, 3}, new int[] {5, 7}, new int[][] {{1, 2}, {3, 4}},
                 new int[][] {{0, 1}, {5, 0}});
@@ -193,11 +193,7 @@ public final class OperationsTest {
 
     private static void deriveByWeights() {
         for (int seed = 1; seed <= 8; seed++) {
-            SeriesBench x = new SeriesBench();
-            x.random(0, 4, seed);
-            x.setEnd(0, 0, false, 1);
-            x.setEnd(0, 0, true, 0);
-            x.setEnd(0, 0, true, (int) ((P - x.weight(0, 0)) % P));
+            Bench x = withoutEmptyWord(seed);
             x.derive(1, 0, 1);
             x.derive(2, 0, 3);
             x.derive(3, 0, 4);
@@ -209,23 +205,37 @@ public final class OperationsTest {
                 CHECK.due("weight in a quotient by a", x.weight(0, Model.number("a" + letters)), () -> x.weight(2, w));
                 CHECK.due("weight in a quotient by b", x.weight(0, Model.number("b" + letters)), () -> x.weight(3, w));
             }
-            x.derive(1, 0, 2);
-            long[] due = new long[127];
-            due[0] = 1;
-            for (int word = 0; word < due.length; word++) {
-                int w = word;
-                String letters = Model.letters(w);
-                for (int cut = 1; cut <= letters.length(); cut++) {
-                    long head = x.weight(0, Model.number(letters.substring(0, cut)));
-                    due[w] = (due[w] + head * due[Model.number(letters.substring(cut))]) % P;
-                }
-                CHECK.due("weight in a star", due[w], () -> x.weight(1, w));
+            starByWeights(withoutEmptyWord(seed));
+        }
+    }
+
+    /** A random automaton in slot 0, but for a final number that makes the empty word weigh 0. */
+    private static Bench withoutEmptyWord(int seed) {
+        Bench x = new Bench();
+        x.random(0, 4, seed);
+        x.setEnd(0, 0, false, 1);
+        x.setEnd(0, 0, true, 0);
+        x.setEnd(0, 0, true, (int) ((P - x.weight(0, 0)) % P));
+        return x;
+    }
+
+    private static void starByWeights(Bench x) {
+        x.derive(1, 0, 2);
+        long[] due = new long[63];
+        due[0] = 1;
+        for (int word = 0; word < due.length; word++) {
+            int w = word;
+            String letters = Model.letters(w);
+            for (int cut = 1; cut <= letters.length(); cut++) {
+                long head = x.weight(0, Model.number(letters.substring(0, cut)));
+                due[w] = (due[w] + head * due[Model.number(letters.substring(cut))]) % P;
             }
+            CHECK.due("weight in a star", due[w], () -> x.weight(1, w));
         }
     }
 
     private static void reductions() {
-        SeriesBench x = new SeriesBench();
+        Bench x = new Bench();
         // a + a: the basis words are the empty word and a.
         make(x, 0, new int[] {1, 0, 1, 0}, new int[] {0, 1, 0, 1},
                 new int[][] {{0, 1, 0, 0}, {0, 0, 0, 0}, {0, 0, 0, 1}, {0, 0, 0, 0}}, new int[4][4]);
@@ -253,7 +263,7 @@ public final class OperationsTest {
 
     private static void sameResults() {
         for (int seed = 1; seed <= 10; seed++) {
-            SeriesBench x = new SeriesBench();
+            Bench x = new Bench();
             x.random(0, 3, seed);
             x.random(1, 2, seed + 50);
             x.combine(2, 0, 1, 1);
@@ -282,7 +292,7 @@ public final class OperationsTest {
     }
 
     private static void deriveRefuses() {
-        SeriesBench x = new SeriesBench();
+        Bench x = new Bench();
         x.begin(0, 12);
         x.random(1, 2, 1);
         x.begin(2, 11);
@@ -308,7 +318,7 @@ public final class OperationsTest {
     }
 
     private static void scale() {
-        SeriesBench x = example();
+        Bench x = example();
         CHECK.due("scale", 31 * 3, () -> x.scale(0, 3));
         holds("scaled", x, 0, new int[] {6, 9}, new int[] {5, 7}, new int[][] {{1, 2}, {3, 4}},
                 new int[][] {{0, 1}, {5, 0}});

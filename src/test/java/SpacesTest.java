@@ -6,7 +6,7 @@ public final class SpacesTest {
     private static final Check CHECK = new Check("SpacesTest");
 
     public static void main(String[] args) {
-        SeriesBench x = new SeriesBench();
+        Bench x = new Bench();
         dimension(x);
         basisWord(x);
         differing();
@@ -18,7 +18,7 @@ public final class SpacesTest {
     }
 
     /** Makes states 0 to n - 1 in a row, joined by one letter, with initial 1 at the first one. */
-    private static void chain(SeriesBench x, int slot, int n, int letter) {
+    private static void chain(Bench x, int slot, int n, int letter) {
         x.begin(slot, n);
         x.setEnd(slot, 0, false, 1);
         for (int i = 0; i + 1 < n; i++) {
@@ -26,13 +26,13 @@ public final class SpacesTest {
         }
     }
 
-    private static void dimensions(SeriesBench x, int slot, int forward, int backward, int minimal) {
+    private static void dimensions(Bench x, int slot, int forward, int backward, int minimal) {
         CHECK.due("the forward dimension", forward, () -> x.dimension(slot, 0));
         CHECK.due("the backward dimension", backward, () -> x.dimension(slot, 1));
         CHECK.due("the minimal dimension", minimal, () -> x.dimension(slot, 2));
     }
 
-    private static void dimension(SeriesBench x) {
+    private static void dimension(Bench x) {
         dimensions(x, 0, 0, 0, 0);
         chain(x, 0, 12, 0);
         dimensions(x, 0, 12, 0, 0);
@@ -52,7 +52,7 @@ public final class SpacesTest {
         CHECK.due("a number after dimension", 1, () -> x.step(0, 0, 10, 11));
     }
 
-    private static void basisWord(SeriesBench x) {
+    private static void basisWord(Bench x) {
         chain(x, 1, 12, 1);
         for (int index = 0; index < 12; index++) {
             int i = index;
@@ -79,7 +79,7 @@ public final class SpacesTest {
     }
 
     private static void differing() {
-        SeriesBench x = new SeriesBench();
+        Bench x = new Bench();
         CHECK.due("differing without states", -1, () -> x.differing(0, 1));
         chain(x, 0, 12, 0);
         CHECK.due("differing from nothing without final numbers", -1, () -> x.differing(0, 1));
@@ -115,7 +115,7 @@ public final class SpacesTest {
     }
 
     private static void hankelRank() {
-        SeriesBench x = new SeriesBench();
+        Bench x = new Bench();
         CHECK.due("hankelRank without states", 0, () -> x.hankelRank(0, 31));
         chain(x, 0, 3, 0);
         x.setEnd(0, 2, true, 1);
@@ -147,7 +147,7 @@ public final class SpacesTest {
     }
 
     private static void recurs() {
-        SeriesBench x = new SeriesBench();
+        Bench x = new Bench();
         CHECK.due("recurs without states", true, () -> x.recurs(0, 1));
         // The words a..a of each length: totals 1, 2, 4, ...
         x.begin(0, 1);
@@ -183,11 +183,16 @@ public final class SpacesTest {
         CHECK.due("recurs of slot -1", INDEX, () -> x.recurs(-1, 1));
     }
 
-    private static void inverse(SeriesBench x) {
+    private static void inverse(Bench x) {
+        Bench y = new Bench();
         for (int number = 1; number <= 10006; number++) {
             int n = number;
-            CHECK.due("inverse(" + n + ") times it", 1L, () -> (long) n * x.inverse(n) % 10007);
-            CHECK.due("inverse(" + n + ") in range", true, () -> x.inverse(n) > 0 && x.inverse(n) < 10007);
+            Bench z = y.left() > 0 ? y : new Bench();
+            CHECK.due("inverse(" + n + ") times it", 1L, () -> {
+                int inverse = z.inverse(n);
+                return inverse > 0 && inverse < 10007 ? (long) n * inverse % 10007 : inverse;
+            });
+            y = z;
         }
         CHECK.due("inverse(0)", ARGUMENT, () -> x.inverse(0));
         CHECK.due("inverse(-1)", ARGUMENT, () -> x.inverse(-1));
@@ -195,7 +200,7 @@ public final class SpacesTest {
     }
 
     private static void nothingSaved() {
-        SeriesBench x = new SeriesBench();
+        Bench x = new Bench();
         x.dimension(0, 2);
         x.differing(0, 1);
         x.hankelRank(0, 3);

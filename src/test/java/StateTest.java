@@ -11,15 +11,22 @@ public final class StateTest {
         CHECK.end();
     }
 
-    private static void undone(String what, SeriesBench x, Check.Call call) {
+    /** The call of a new object with 4 states in slot 1 and the text a is undone. */
+    private static void undone(String what, Edges.Act call) {
+        Bench x = new Bench();
+        x.random(1, 4, 3);
+        x.append('a');
         long before = slots(x);
-        Check.answer(call);
+        Check.answer(() -> call.on(x));
         CHECK.due("undo of " + what, 1, () -> x.undo());
         CHECK.due("the slots after undo of " + what, before, () -> slots(x));
+        CHECK.due("undo of the first call", 0, () -> x.undo());
+        CHECK.due("states then", 0, () -> x.states(1));
+        CHECK.due("undo without a saved state", STATE, () -> x.undo());
     }
 
     /** A number for all that the slots hold. */
-    private static long slots(SeriesBench x) {
+    private static long slots(Bench x) {
         long h = 7;
         for (int slot = 0; slot < 4; slot++) {
             h = automaton(x, slot, h);
@@ -27,7 +34,7 @@ public final class StateTest {
         return h;
     }
 
-    private static long automaton(SeriesBench x, int slot, long start) {
+    private static long automaton(Bench x, int slot, long start) {
         int n = x.states(slot);
         long h = 31 * start + n;
         for (int i = 0; i < n; i++) {
@@ -45,28 +52,22 @@ public final class StateTest {
     }
 
     private static void undoOfEachCall() {
-        SeriesBench x = new SeriesBench();
-        x.random(1, 4, 3);
-        x.append('a');
-        undone("begin", x, () -> x.begin(1, 12));
-        undone("setEnd", x, () -> x.setEnd(1, 2, true, 999));
-        undone("setStep", x, () -> x.setStep(1, 1, 2, 3, 999));
-        undone("random", x, () -> x.random(1, 4, 4));
-        undone("combine", x, () -> x.combine(1, 1, 1, 2));
-        undone("derive", x, () -> x.derive(1, 1, 6));
-        undone("scale", x, () -> x.scale(1, 17));
-        undone("parse", x, () -> x.parse(1));
-        undone("a begin that changes nothing", x, () -> x.begin(2, 0));
-        undone("a setEnd that changes nothing", x, () -> x.setEnd(1, 0, true, x.end(1, 0, true)));
-        undone("a scale that changes nothing", x, () -> x.scale(3, 1));
-        undone("a copy onto itself", x, () -> x.derive(1, 1, 0));
-        CHECK.due("undo of the first call", 0, () -> x.undo());
-        CHECK.due("states then", 0, () -> x.states(1));
-        CHECK.due("undo without a saved state", STATE, () -> x.undo());
+        undone("begin", x -> x.begin(1, 12));
+        undone("setEnd", x -> x.setEnd(1, 2, true, 999));
+        undone("setStep", x -> x.setStep(1, 1, 2, 3, 999));
+        undone("random", x -> x.random(1, 4, 4));
+        undone("combine", x -> x.combine(1, 1, 1, 2));
+        undone("derive", x -> x.derive(1, 1, 6));
+        undone("scale", x -> x.scale(1, 17));
+        undone("parse", x -> x.parse(1));
+        undone("a begin that changes nothing", x -> x.begin(2, 0));
+        undone("a setEnd that changes nothing", x -> x.setEnd(1, 0, true, x.end(1, 0, true)));
+        undone("a scale that changes nothing", x -> x.scale(3, 1));
+        undone("a copy onto itself", x -> x.derive(1, 1, 0));
     }
 
     private static void fourStates() {
-        SeriesBench x = new SeriesBench();
+        Bench x = new Bench();
         for (int states = 1; states <= 12; states++) {
             x.begin(states % 3, states);
         }
@@ -90,7 +91,7 @@ public final class StateTest {
     }
 
     private static void slotsAlone() {
-        SeriesBench x = new SeriesBench();
+        Bench x = new Bench();
         x.begin(0, 3);
         x.append('a');
         x.append('b');
@@ -108,7 +109,7 @@ public final class StateTest {
         CHECK.due("undo after refused calls", 0, () -> x.undo());
     }
 
-    private static long expected(SeriesBench x, int length, int saved) {
+    private static long expected(Bench x, int length, int saved) {
         long h = 31L * 3019 + length;
         for (int slot = 0; slot < 4; slot++) {
             h = automaton(x, slot, h);
@@ -120,23 +121,25 @@ public final class StateTest {
     }
 
     private static void digest() {
-        SeriesBench x = new SeriesBench();
-        CHECK.due("digest of a new object", expected(x, 0, 0), () -> x.digest());
-        x.append('a');
-        x.append('*');
-        CHECK.due("digest with a text", expected(x, 2, 0), () -> x.digest());
-        x.parse(2);
-        CHECK.due("digest with a state saved", expected(x, 2, 1), () -> x.digest());
-        x.random(0, 12, 5);
-        x.random(1, 2, 6);
-        x.combine(3, 1, 1, 0);
-        CHECK.due("digest with four states saved", expected(x, 2, 4), () -> x.digest());
-        x.setStep(3, 1, 0, 3, 10006);
-        x.clearText();
-        CHECK.due("digest after a fifth call", expected(x, 0, 4), () -> x.digest());
-        long before = x.digest();
-        CHECK.due("digest twice", before, () -> x.digest());
-        x.undo();
-        CHECK.due("digest after undo", expected(x, 0, 3), () -> x.digest());
+        Edges.Act[] calls = {x -> x.append('a'), x -> x.append('*'), x -> x.parse(2), x -> x.random(0, 7, 5),
+            x -> x.random(1, 2, 6), x -> x.combine(3, 1, 1, 0), x -> x.setStep(3, 1, 0, 3, 10006), x -> x.clearText(),
+            x -> x.undo(), x -> x.undo()};
+        int[] lengths = {0, 1, 2, 2, 2, 2, 2, 2, 0, 0, 0};
+        int[] saved = {0, 0, 0, 1, 2, 3, 4, 4, 4, 3, 2};
+        for (int made = 0; made <= calls.length; made++) {
+            int m = made;
+            long due = expected(after(calls, made), lengths[made], saved[made]);
+            Bench x = after(calls, made);
+            CHECK.due("digest after " + m + " calls", due, () -> x.digest());
+            CHECK.due("digest again", due, () -> x.digest());
+        }
+    }
+
+    private static Bench after(Edges.Act[] calls, int made) {
+        Bench x = new Bench();
+        for (int k = 0; k < made; k++) {
+            calls[k].on(x);
+        }
+        return x;
     }
 }

@@ -16,20 +16,20 @@ public final class TextTest {
         CHECK.end();
     }
 
-    private static void write(SeriesBench x, String text) {
+    private static void write(Bench x, String text) {
         x.clearText();
         for (char c : text.toCharArray()) {
             x.append(c);
         }
     }
 
-    private static void parses(SeriesBench x, String text, int due) {
+    private static void parses(Bench x, String text, int due) {
         write(x, text);
         CHECK.due("parse of " + text, due, () -> x.parse(1));
     }
 
     private static void append() {
-        SeriesBench x = new SeriesBench();
+        Bench x = new Bench();
         CHECK.due("append(-1)", ARGUMENT, () -> x.append(-1));
         CHECK.due("append(128)", ARGUMENT, () -> x.append(128));
         for (int length = 1; length <= 60; length++) {
@@ -42,7 +42,7 @@ public final class TextTest {
     }
 
     private static void clearText() {
-        SeriesBench x = new SeriesBench();
+        Bench x = new Bench();
         CHECK.due("clearText", 0, () -> x.clearText());
         write(x, "ab");
         CHECK.due("clearText of two", 2, () -> x.clearText());
@@ -52,7 +52,7 @@ public final class TextTest {
     }
 
     private static void syntax() {
-        SeriesBench x = new SeriesBench();
+        Bench x = new Bench();
         parses(x, "", -10);
         parses(x, "+", -10);
         parses(x, "*", -10);
@@ -96,7 +96,7 @@ public final class TextTest {
     }
 
     private static void impossible() {
-        SeriesBench x = new SeriesBench();
+        Bench x = new Bench();
         parses(x, "1*", -2);
         parses(x, "a**", -2);
         parses(x, "(a+1)*", -2);
@@ -116,7 +116,7 @@ public final class TextTest {
     }
 
     private static void automata() {
-        SeriesBench x = new SeriesBench();
+        Bench x = new Bench();
         parses(x, "a", 2);
         ends(x, new int[] {1, 0}, new int[] {0, 1});
         CHECK.due("the step of a", 1, () -> x.step(1, 0, 0, 1));
@@ -141,7 +141,7 @@ public final class TextTest {
         CHECK.due("the step of a + a", 1, () -> x.step(1, 0, 1, 0));
     }
 
-    private static void ends(SeriesBench x, int[] initial, int[] last) {
+    private static void ends(Bench x, int[] initial, int[] last) {
         CHECK.due("states", initial.length, () -> x.states(1));
         for (int i = 0; i < initial.length; i++) {
             int state = i;
@@ -150,7 +150,7 @@ public final class TextTest {
         }
     }
 
-    private static void weighs(SeriesBench x, String text, int... weights) {
+    private static void weighs(Bench x, String text, int... weights) {
         write(x, text);
         x.parse(1);
         for (int word = 0; word < weights.length; word++) {
@@ -160,7 +160,7 @@ public final class TextTest {
     }
 
     private static void weights() {
-        SeriesBench x = new SeriesBench();
+        Bench x = new Bench();
         weighs(x, "a+b+b+3", 3, 1, 2, 0, 0, 0, 0);
         weighs(x, "ab", 0, 0, 0, 0, 1, 0, 0);
         weighs(x, "a+ba", 0, 1, 0, 0, 0, 1, 0);
@@ -184,7 +184,7 @@ public final class TextTest {
     }
 
     private static void saving() {
-        SeriesBench x = new SeriesBench();
+        Bench x = new Bench();
         write(x, "a+");
         CHECK.due("parse of a text that ends too early", -12, () -> x.parse(1));
         write(x, "1*");

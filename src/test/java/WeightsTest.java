@@ -7,35 +7,44 @@ public final class WeightsTest {
     private static final long P = 10007;
 
     public static void main(String[] args) {
-        SeriesBench x = new SeriesBench();
-        readAsBinary(x, 1);
-        weight(x);
-        powerWeight(x);
-        total(x);
-        support(x);
-        first(x);
+        weight();
+        powerWeight();
+        total();
+        support();
+        first();
         nothingSaved();
         CHECK.end();
     }
 
-    /** Makes an automaton in which a word weighs what its letters say in binary: a is 0, b is 1. */
-    private static void readAsBinary(SeriesBench x, int slot) {
-        x.begin(slot, 2);
-        x.setEnd(slot, 0, false, 1);
-        x.setEnd(slot, 1, true, 1);
+    /** In slot 1 a word weighs what its letters say in binary: a is 0, b is 1. */
+    private static Bench readAsBinary() {
+        Bench x = new Bench();
+        x.begin(1, 2);
+        x.setEnd(1, 0, false, 1);
+        x.setEnd(1, 1, true, 1);
         for (int letter = 0; letter < 2; letter++) {
-            x.setStep(slot, letter, 0, 0, 1);
-            x.setStep(slot, letter, 1, 1, 2);
+            x.setStep(1, letter, 0, 0, 1);
+            x.setStep(1, letter, 1, 1, 2);
         }
-        x.setStep(slot, 1, 0, 1, 1);
+        x.setStep(1, 1, 0, 1, 1);
+        return x;
     }
 
-    private static void weight(SeriesBench x) {
+    /** The object itself, or a new one if no call of it is left. */
+    private static Bench usable(Bench x) {
+        return x.left() > 0 ? x : readAsBinary();
+    }
+
+    private static void weight() {
+        Bench binary = readAsBinary();
         for (int word = 0; word <= 1000000; word += word < 3000 ? 1 : 9973) {
             int w = word;
             long due = (w + 1 - Integer.highestOneBit(w + 1)) % P;
-            CHECK.due("weight(1, " + w + ")", due, () -> x.weight(1, w));
+            Bench y = usable(binary);
+            CHECK.due("weight(1, " + w + ")", due, () -> y.weight(1, w));
+            binary = y;
         }
+        Bench x = readAsBinary();
         CHECK.due("weight of word 1000000", (1000001 - 524288) % P, () -> x.weight(1, 1000000));
         CHECK.due("weight without states", 0, () -> x.weight(0, 77));
         CHECK.due("weight of word -1", ARGUMENT, () -> x.weight(1, -1));
@@ -58,7 +67,8 @@ public final class WeightsTest {
         CHECK.due("a sum of twelve products", 12, () -> x.weight(2, 0));
     }
 
-    private static void powerWeight(SeriesBench x) {
+    private static void powerWeight() {
+        Bench binary = readAsBinary();
         int[] words = {0, 1, 2, 4, 5, 13, 4094, 1000000};
         for (int word : words) {
             long due = 0;
@@ -66,10 +76,13 @@ public final class WeightsTest {
             int letters = word + 1 - (1 << length);
             for (int times = 0; times <= 200; times++) {
                 int t = times;
-                CHECK.due("powerWeight(1, " + word + ", " + t + ")", due, () -> x.powerWeight(1, word, t));
+                Bench y = usable(binary);
+                CHECK.due("powerWeight(1, " + word + ", " + t + ")", due, () -> y.powerWeight(1, word, t));
                 due = (due * (1 << length) + letters) % P;
+                binary = y;
             }
         }
+        Bench x = readAsBinary();
         CHECK.due("powerWeight without states", 0, () -> x.powerWeight(0, 5, 5));
         CHECK.due("powerWeight of word -1", ARGUMENT, () -> x.powerWeight(1, -1, 1));
         CHECK.due("powerWeight of word 1000001", ARGUMENT, () -> x.powerWeight(1, 1000001, 1));
@@ -79,7 +92,8 @@ public final class WeightsTest {
         CHECK.due("powerWeight of slot -1", INDEX, () -> x.powerWeight(-1, 0, 0));
     }
 
-    private static void total(SeriesBench x) {
+    private static void total() {
+        Bench x = readAsBinary();
         long words = 1;
         for (int length = 0; length <= 2000; length++) {
             int n = length;
@@ -96,7 +110,8 @@ public final class WeightsTest {
         CHECK.due("total of slot -1", INDEX, () -> x.total(-1, 0));
     }
 
-    private static void support(SeriesBench x) {
+    private static void support() {
+        Bench x = readAsBinary();
         int zeros = 0;
         for (int limit = 0; limit <= 4095; limit++) {
             int n = limit;
@@ -128,9 +143,16 @@ public final class WeightsTest {
         CHECK.due("support of slot -1", INDEX, () -> x.support(-1, 0));
     }
 
-    private static void first(SeriesBench x) {
+    private static void first() {
+        Bench x = readAsBinary();
         CHECK.due("first without states", -1, () -> x.first(0));
         CHECK.due("first of the binary numbers", 2, () -> x.first(1));
+        x.begin(2, 12);
+        x.setEnd(2, 0, false, 1);
+        x.setEnd(2, 11, true, 1);
+        for (int i = 0; i < 11; i++) {
+            x.setStep(2, 1, i, i + 1, 3);
+        }
         CHECK.due("first of a word of 11 letters", 4094, () -> x.first(2));
         CHECK.due("first of slot 4", INDEX, () -> x.first(4));
         CHECK.due("first of slot -1", INDEX, () -> x.first(-1));
@@ -156,7 +178,7 @@ public final class WeightsTest {
     }
 
     private static void nothingSaved() {
-        SeriesBench x = new SeriesBench();
+        Bench x = new Bench();
         x.weight(0, 0);
         x.powerWeight(0, 0, 0);
         x.total(0, 0);
