@@ -8,8 +8,24 @@ final class Check {
     private int calls;
     private int wrong;
 
+    /** The longest that a test may take: it takes some seconds, but for a call that doesn't end. */
+    private static final long MILLISECONDS = 300_000;
+
     Check(String name) {
         this.name = name;
+        Thread watch = new Thread(this::endLate);
+        watch.setDaemon(true);
+        watch.start();
+    }
+
+    private void endLate() {
+        try {
+            Thread.sleep(MILLISECONDS);
+            System.out.println(name + " does not end");
+            Runtime.getRuntime().halt(1);
+        } catch (InterruptedException e) {
+            System.out.println(name + " is no longer watched");
+        }
     }
 
     /** What a call answers, or the name of the class of what it throws. */

@@ -102,10 +102,13 @@ abstract class Edges {
         due(history(made(build)), asked, x -> history(x));
     }
 
-    /** The call is refused with each of these arguments. */
+    /** The call is refused with each of these arguments; after the first one that isn't, the others are left out. */
     final void refusedWith(Class<?> exception, Script build, ActWith act, int... arguments) {
+        int before = check.wrong();
         for (int argument : arguments) {
-            refused(exception, build, x -> act.on(x, argument));
+            if (check.wrong() == before) {
+                refused(exception, build, x -> act.on(x, argument));
+            }
         }
     }
 

@@ -323,10 +323,13 @@ public final class SpacesEdgesTest extends Edges {
             chain(x, 1, 2, A);
             chain(x, 3, 3, A);
         };
-        due(1, build, x -> x.hankelRank(0, 31));
-        due(2, build, x -> x.hankelRank(1, 31));
-        due(0, build, x -> x.hankelRank(2, 31));
-        due(3, build, x -> x.hankelRank(3, 31));
+        int[] due = {1, 2, 0, 3};
+        Bench all = made(build);
+        for (int slot = 0; slot <= 3; slot++) {
+            int s = slot;
+            due(due[s], build, x -> x.hankelRank(s, 31));
+            due(due[s], all, x -> x.hankelRank(s, 31));
+        }
         refusedOutsideSlots(build, (x, slot) -> x.hankelRank(slot, 31));
     }
 
@@ -421,6 +424,14 @@ public final class SpacesEdgesTest extends Edges {
         due(true, build, x -> x.recurs(2, 1));
         due(false, build, x -> x.recurs(3, 3));
         due(true, build, x -> x.recurs(3, 4));
+        Bench all = made(build);
+        for (int slot = 3; slot >= 0; slot--) {
+            for (int d = 1; d <= 4; d++) {
+                int s = slot;
+                int order = d;
+                due(s == 2 || order >= (s == 3 ? 4 : s + 2), all, x -> x.recurs(s, order));
+            }
+        }
         refusedOutsideSlots(build, (x, slot) -> x.recurs(slot, 4));
     }
 
@@ -439,6 +450,16 @@ public final class SpacesEdgesTest extends Edges {
         due(true, x -> x.begin(0, 12), x -> x.recurs(0, 1));
         due(false, x -> chain(x, 0, 12, A), x -> x.recurs(0, 11));
         due(true, x -> chain(x, 0, 12, A), x -> x.recurs(0, 12));
+        // Whatever was asked before.
+        Bench x = made(y -> {
+            chain(y, 0, 3, A);
+            y.random(1, 12, 4);
+        });
+        for (int d = 1; d <= 12; d++) {
+            int order = d;
+            x.hankelRank(1, 31);
+            due(order >= 3, x, y -> y.recurs(0, order));
+        }
     }
 
     @Sentence(of = "Promise 21", says = "Throws `IndexOutOfBoundsException` if there is no such slot")

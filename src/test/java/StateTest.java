@@ -8,6 +8,7 @@ public final class StateTest {
         fourStates();
         slotsAlone();
         digest();
+        answersRestOnTheStateAlone();
         CHECK.end();
     }
 
@@ -133,6 +134,54 @@ public final class StateTest {
             CHECK.due("digest after " + m + " calls", due, () -> x.digest());
             CHECK.due("digest again", due, () -> x.digest());
         }
+    }
+
+    /** A call is answered alike, whatever was asked, or done and undone, of another slot just before. */
+    private static void answersRestOnTheStateAlone() {
+        Edges.ActWith[] questions = {(x, s) -> x.weight(s, 41), (x, s) -> x.powerWeight(s, 5, 7), (x, s) -> x.total(s, 9),
+            (x, s) -> x.support(s, 300), (x, s) -> x.first(s), (x, s) -> x.dimension(s, 0), (x, s) -> x.dimension(s, 1),
+            (x, s) -> x.dimension(s, 2), (x, s) -> x.basisWord(s, 1), (x, s) -> x.differing(s, 1),
+            (x, s) -> x.hankelRank(s, 31), (x, s) -> x.recurs(s, 2)};
+        Edges.ActWith[] changes = {(x, s) -> x.random(s, 12, 8), (x, s) -> x.combine(s, s, s, 2),
+            (x, s) -> x.derive(s, s, 6), (x, s) -> x.scale(s, 3), (x, s) -> x.parse(s)};
+        for (Edges.ActWith before : questions) {
+            alike(questions, before, false);
+            alike(changes, before, false);
+        }
+        for (Edges.ActWith before : changes) {
+            alike(questions, before, true);
+            alike(changes, before, true);
+        }
+    }
+
+    private static void alike(Edges.ActWith[] calls, Edges.ActWith before, boolean undone) {
+        for (Edges.ActWith call : calls) {
+            for (int slot = 0; slot < 4; slot++) {
+                int s = slot;
+                Bench fresh = different();
+                String due = Check.answer(() -> call.on(fresh, s));
+                Bench asked = different();
+                Check.answer(() -> before.on(asked, (s + 1) % 4));
+                if (undone) {
+                    Check.answer(() -> asked.undo());
+                }
+                CHECK.due("a call of slot " + s + " after another one", due, () -> call.on(asked, s));
+                CHECK.due("the slots after it", slots(fresh), () -> slots(asked));
+            }
+        }
+    }
+
+    /** Four slots with automata of different sizes, and a text. */
+    private static Bench different() {
+        Bench x = new Bench();
+        x.random(0, 6, 4);
+        x.random(1, 3, 5);
+        x.random(2, 1, 6);
+        x.random(3, 5, 7);
+        for (char sign : "(a+2b)*b".toCharArray()) {
+            x.append(sign);
+        }
+        return x;
     }
 
     private static Bench after(Edges.Act[] calls, int made) {

@@ -266,10 +266,15 @@ public final class WeightsEdgesTest extends Edges {
             one(x, 1, 1, 1, 0, 1);
             one(x, 3, 1, 1, 1, 1);
         };
-        due(1, build, x -> x.support(0, 100));
-        due(6, build, x -> x.support(1, 100));
-        due(0, build, x -> x.support(2, 100));
-        due(100, build, x -> x.support(3, 100));
+        int[] due = {1, 6, 0, 100};
+        Bench all = made(build);
+        for (int slot = 0; slot <= 3; slot++) {
+            int s = slot;
+            due(due[s], build, x -> x.support(s, 100));
+            due(due[s], all, x -> x.support(s, 100));
+        }
+        all.setStep(3, B, 0, 0, 0);
+        due(7, all, x -> x.support(3, 100));
         refusedOutsideSlots(build, (x, slot) -> x.support(slot, 100));
     }
 
