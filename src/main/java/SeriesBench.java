@@ -52,6 +52,7 @@ public final class SeriesBench {
     private final Automaton[] saved;
     private final int[] savedSlots;
     private int savedCount;
+    // What calls compute with is made once, since the room for all calls of a run is small.
     private final Automaton scratch;
     private final Automaton difference;
     private final Walk walk;

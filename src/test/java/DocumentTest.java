@@ -3,12 +3,14 @@ import java.nio.file.Files;
 import java.nio.file.Path;
 import java.util.ArrayList;
 import java.util.List;
+import java.util.Set;
 import java.util.TreeMap;
 import java.util.stream.Stream;
 
 /**
  * Compares the tests of single sentences with ../shared/DOC.md: each test's sentence stands in the document, each
- * sentence of "Promise 1" to "Promise 27" has a test, and so has each sentence of "Terms" that names an edge.
+ * sentence of "Promise 1" to "Promise 27" has a test, and so has each sentence of "Terms" that names an edge; there are
+ * no headings but those known.
  */
 public final class DocumentTest {
     private static final Check CHECK = new Check("DocumentTest");
@@ -18,6 +20,9 @@ public final class DocumentTest {
         "Operations, for automata x and y", "it comes by the final numbers", "Minimization.",
         "The forward reduction of an automaton:", "Expression text.", "The automata of letters and numbers:", "Undo.",
         "Exceptions.", "There is no such thing.", "Ahead of the calls", "----"};
+
+    /** The face is looked at by FaceTest; what is not promised is free. */
+    private static final Set<String> OTHERS = Set.of("SeriesBench", "The public face", "Not promised");
 
     public static void main(String[] args) throws Exception {
         TreeMap<String, String> sections = sections();
@@ -40,6 +45,11 @@ public final class DocumentTest {
                 promise(heading, sections.get(heading), says);
             } else if (heading.equals("Terms")) {
                 terms(sections.get(heading), says);
+            } else if (heading.equals("What it is")) {
+                String calls = "An object is used for at most 512 calls after it has been made;";
+                CHECK.due(heading + " has a test of: " + calls, true, () -> covered(calls, says));
+            } else {
+                CHECK.due("\"" + heading + "\" asks for no test of sentences", true, () -> OTHERS.contains(heading));
             }
         }
         int found = promises;

@@ -9,7 +9,7 @@ import java.util.TreeSet;
 import java.util.regex.Matcher;
 import java.util.regex.Pattern;
 
-/** The document's face, and what LANGUAGE.md's rules 1, 5 and 11 say of the members of the class and the classes in it. */
+/** The document's face, word for word, and what LANGUAGE.md's rules 1, 5 and 11 say of the members of the class and the classes in it. */
 public final class FaceTest {
     private static final Check CHECK = new Check("FaceTest");
     private static final Pattern CALL = Pattern.compile("public (\\w+) (\\w+)\\((.*?)\\).*;");
@@ -26,6 +26,7 @@ public final class FaceTest {
             }
         }
         CHECK.due("the document's face is found", 26, () -> due.size());
+        wordForWord();
         CHECK.due("the methods that are not private", due, () -> open);
         CHECK.due("the class is public and final", Modifier.PUBLIC | Modifier.FINAL,
                 () -> SeriesBench.class.getModifiers());
@@ -48,11 +49,25 @@ public final class FaceTest {
         CHECK.end();
     }
 
+    private static String document() throws Exception {
+        String document = Files.readString(Path.of("../shared/DOC.md"));
+        int start = document.indexOf("```java\n") + "```java\n".length();
+        return document.substring(start, document.indexOf("```", start));
+    }
+
+    /** Each line of the document's face stands in the program, which may break lines elsewhere. */
+    private static void wordForWord() throws Exception {
+        String program = Files.readString(Path.of("src/main/java/SeriesBench.java")).replaceAll("\\s+", " ");
+        for (String line : document().lines().map(String::trim).filter(line -> line.length() > 1).toList()) {
+            String head = line.replaceFirst("\\);$", ") {").replaceFirst("Exception;$", "Exception {");
+            CHECK.due("the program has " + line, true, () -> program.contains(head));
+        }
+    }
+
     /** The calls as ../shared/DOC.md has them, without the names of their arguments. */
     private static TreeSet<String> face(TreeSet<String> names) throws Exception {
         TreeSet<String> face = new TreeSet<>();
-        String document = Files.readString(Path.of("../shared/DOC.md"));
-        Matcher matcher = CALL.matcher(document.substring(document.indexOf("```java"), document.indexOf("## Terms")));
+        Matcher matcher = CALL.matcher(document());
         while (matcher.find()) {
             names.add(matcher.group(2));
             face.add(matcher.group(1) + " " + matcher.group(2) + "(" + matcher.group(3).replaceAll("(\\w+) \\w+", "$1")

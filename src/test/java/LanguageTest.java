@@ -27,6 +27,7 @@ public final class LanguageTest extends TreeScanner<Void, Void> {
             "Boolean", "Double", "Float", "Byte", "Short", "Number", "StringBuffer", "CharSequence", "Runnable",
             "Throwable", "Error", "Exception", "Map", "HashMap", "Set", "Random", "Optional", "Objects", "Collections");
     private static final Set<String> ARRAYS = Set.of("copyOf", "copyOfRange", "fill");
+    private static final Set<String> OF_OBJECTS = Set.of("equals", "hashCode", "toString");
     private static final int LINES = 65;
     private static final int FIELDS = 25;
     private static final int CLASSES = 14;
@@ -106,6 +107,7 @@ public final class LanguageTest extends TreeScanner<Void, Void> {
         long last = line(Math.max(positions.getEndPosition(unit, tree), positions.getStartPosition(unit, tree)));
         faultIf(last - first >= LINES, 11, tree, "a long method");
         faultIf(tree.getParameters().size() > 7, 11, tree, "many parameters");
+        faultIf(OF_OBJECTS.contains(tree.getName().toString()), 6, tree, tree.getName().toString());
         faultIf(tree.getModifiers().getFlags().contains(Modifier.SYNCHRONIZED), 6, tree, "a synchronized method");
         faultIf(tree.getModifiers().getFlags().contains(Modifier.NATIVE), 4, tree, "a native method");
         boolean outside = inConstructor;
